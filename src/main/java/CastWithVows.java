@@ -1056,6 +1056,7 @@ public final class CastWithVows {
         /** By how much more each VOW puts its BELL OFF, if it is in the set that is tried. */
         private final int[] more = new int[VOWS];
         private final int[] seen = new int[2 * VOWS * MOST_OFF + 1];
+        private final int[] left = new int[Shelf.PLACES];
         private final int[] due = new int[Shelf.PLACES];
         /** What a VOW does so many days behind its BROKEN. */
         private final int[] after = new int[LAST_DAY + 1];
@@ -1185,22 +1186,22 @@ public final class CastWithVows {
         }
 
         int nextToStrike(Shelf told, int hour, int d, int what) {
-            int left = 1;
+            int all = 1;
             int bell = NOT;
             int most = NOT;
             for (int b = 0; b < foundry.bells; b++) {
                 int pitch = b < told.size ? (int) told.cells[b] : -1;
                 hear(b, hour, d, pitch != -1, pitch);
-                left *= sets;
+                all *= sets;
                 if (unlike > most) {
                     most = unlike;
                     bell = b;
                 }
             }
             if (what == 0) {
-                return left;
+                return all;
             }
-            if (left == 0) {
+            if (all == 0) {
                 return NOT;
             }
             return what == 1 ? bell : most;
@@ -1217,14 +1218,17 @@ public final class CastWithVows {
         }
 
         int sinceWhen(Shelf told, int bell, int day, int hour, int what) {
+            if (day + told.size - 1 > LAST_DAY) {
+                return what == 0 ? NOT : 0;
+            }
             int first = NOT;
             int n = 0;
-            boolean fits = day + told.size - 1 <= LAST_DAY;
-            for (int v = 0; fits && v < foundry.vows; v++) {
+            fillLeft(told, bell, day, hour);
+            for (int v = 0; v < foundry.vows; v++) {
                 if (foundry.bellOf[v] != bell) {
                     continue;
                 }
-                fillDue(told, v, day, hour);
+                fillDue(told.size, v, day, hour);
                 fillAfter(v, day + told.size - 1, hour);
                 int kept = leadKept(told.size, foundry.offIf(v, bell, KEPT, hour));
                 for (int since = 0; since <= NEVER; since++) {
@@ -1237,12 +1241,17 @@ public final class CastWithVows {
             return what == 0 ? first : n;
         }
 
-        /** What a VOW itself must do on each day of the ROW, the others being as they are. */
-        private void fillDue(Shelf told, int vow, int day, int hour) {
-            int bell = foundry.bellOf[vow];
+        /** What is left of each PITCH of the ROW, the VOWS being as they are. */
+        private void fillLeft(Shelf told, int bell, int day, int hour) {
             for (int i = 0; i < told.size; i++) {
-                int others = foundry.offOf(bell, day + i, hour) - foundry.offByVow(vow, day + i, hour);
-                due[i] = (int) told.cells[i] - foundry.tone[bell] - others;
+                left[i] = (int) told.cells[i] - foundry.tone[bell] - foundry.offOf(bell, day + i, hour);
+            }
+        }
+
+        /** What a VOW itself must do on each day of the ROW, the others being as they are. */
+        private void fillDue(int size, int vow, int day, int hour) {
+            for (int i = 0; i < size; i++) {
+                due[i] = left[i] + foundry.offByVow(vow, day + i, hour);
             }
         }
 

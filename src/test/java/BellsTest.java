@@ -111,6 +111,7 @@ public final class BellsTest {
         Check.lay(x, 0, 0, 0, 1, -1);
         c.due("nobody's either", x.vows(0, 0, 1), 0);
         c.due("five so far", x.count(1), 5);
+        c.due("a row that ends with a three", ofExactThrees(), 2);
         x.row(2, 0, 60);
         for (int i = 0; i < 60; i++) {
             x.put(2, i, i % 3 == 1 ? 3 : 0);
@@ -118,6 +119,12 @@ public final class BellsTest {
         c.due("until full", x.vows(2, 0, 12), 7);
         c.due("full", x.vows(2, 0, 12), 0);
         c.due("they are no changes", x.count(3), 0);
+    }
+
+    private static int ofExactThrees() {
+        CastWithVows x = twoBells();
+        Check.lay(x, 0, 0, 0, 1, 0, 1, 9, 5);
+        return x.vows(0, 0, 3);
     }
 
     private static void mending() {

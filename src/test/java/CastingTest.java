@@ -9,6 +9,7 @@ public final class CastingTest {
         pairs();
         drawn();
         drawnByHand();
+        daysAndHours();
         c.end();
     }
 
@@ -41,6 +42,10 @@ public final class CastingTest {
         c.due("the two meet from day 4 on", x.cast(0, 9900, 0), 1);
         c.due("off on days 2, 3", x.cast(0, 9900, 1), 2);
         c.due("nothing was cast", x.of(0, 2), 2);
+        x.mend(0, 5, 0);
+        x.mend(0, 6, 1);
+        c.due("day 0 counts", x.cast(0, 0, 1), 1);
+        c.due("and is all that does", x.cast(0, 300, 1), 1);
         c.due("vow 2", x.cast(2, 0, 0), CastWithVows.BAD);
         c.due("vow -1", x.cast(-1, 0, 0), CastWithVows.BAD);
         c.due("n 100", x.cast(0, 10000, 0), CastWithVows.BAD);
@@ -70,6 +75,7 @@ public final class CastingTest {
             c.due("the first way: vow " + v, x.melt(0, 0, v), 1);
         }
         c.due("of another bell", x.melt(0, 0, 5), CastWithVows.NOT);
+        c.due("vow 0 of another bell", x.melt(1, 0, 0), CastWithVows.NOT);
         c.due("without vows", x.melt(2, 0, -1), 0);
         for (int v = 0; v < 6; v++) {
             x.mend(v, 5, 1);
@@ -117,6 +123,16 @@ public final class CastingTest {
         x.mend(3, 2, 2);
         c.due("the first of like ones", x.pairs(0), 2);
         c.due("nothing was exchanged", x.of(0, 2), 0);
+        CastWithVows y = bells(2);
+        y.vow(0, 5);
+        y.vow(0, 3);
+        y.vow(1, 3);
+        Check.feed(y, "b?w=3;w=5");
+        c.due("bell 0 is off by vow 0, bell 1 by vow 2", y.town(0, 0), 2);
+        c.due("exchanged, 0 and 2 are both hushed", y.pairs(0), 2);
+        Check.feed(y, "w=5?0;b?!k;k");
+        y.mend(2, 5, 0);
+        c.due("1 and 2, next to each other", y.pairs(0), 22);
         for (int dh : NO_DAYS) {
             c.due("dh " + dh, x.pairs(dh), CastWithVows.BAD);
         }
@@ -154,6 +170,34 @@ public final class CastingTest {
         c.due("far day", x.drawn(7, 101, Integer.MAX_VALUE, 0), CastWithVows.BAD);
         c.due("what 2", x.drawn(7, 101, 0, 2), CastWithVows.BAD);
         c.due("what -1", x.drawn(7, 101, 0, -1), CastWithVows.BAD);
+    }
+
+    /** Vow 0 is off on day 100 alone, at hour 12 alone, but not in bell 2: each call must tell both apart. */
+    private static void daysAndHours() {
+        int[] dhs = {10012, 9912, 10112, 10011, 10013};
+        for (int dh : dhs) {
+            CastWithVows x = bells(3);
+            x.vow(1, 3);
+            x.vow(2, 4);
+            x.mend(0, 5, 100);
+            x.mend(0, 6, 101);
+            Check.feed(x, "k?0;h=12?b<2;0");
+            int off = dh == 10012 ? 1 : 0;
+            c.promise("promise 23, dh " + dh);
+            c.due("melt", x.melt(1, dh, -1), 0);
+            c.due("melt", x.melt(1, dh, 0), 2 * off);
+            c.promise("promise 24, dh " + dh);
+            c.due("pairs", x.pairs(dh), off == 1 ? 1 : CastWithVows.NOT);
+        }
+        c.promise("promise 22");
+        int[] nhs = {9912, 9812, 9911, 9913};
+        for (int nh : nhs) {
+            CastWithVows x = bells(3);
+            x.vow(1, 3);
+            x.mend(0, 5, 99);
+            Check.feed(x, "k?0;h=12?b<2;0");
+            c.due("cast, nh " + nh, x.cast(0, nh, 0), nh == 9912 ? 2 : 0);
+        }
     }
 
     private static void drawnByHand() {

@@ -10,6 +10,7 @@ public final class DeedsTest {
         images();
         undone();
         fortyAtMost();
+        theOldestGo();
         c.end();
     }
 
@@ -222,5 +223,34 @@ public final class DeedsTest {
         c.due("still forty", x.count(3), 40);
         c.due("undo", x.undo(), 39);
         c.due("tone", x.of(0, 0), 85);
+    }
+
+    /** Tone and tune of a bell, then BROKEN and AGAIN of a vow, by turns for 0 and 1. */
+    private static int whatOf(int i) {
+        return i % 4 < 2 ? i % 4 : i % 4 + 3;
+    }
+
+    /** Changes of unlike numbers, so that each must move up whole when the oldest goes. */
+    private static void theOldestGo() {
+        c.promise("promises 33, 34");
+        CastWithVows x = town();
+        for (int i = 0; i < 42; i++) {
+            x.mend(i / 4 % 2, whatOf(i), i % 24 + 1);
+        }
+        c.due("kept", x.count(3), 40);
+        for (int i = 0; i < 40; i++) {
+            x.undo();
+        }
+        int[] then = {1, 2, 999, 999, 50, 12, 999, 999};
+        for (int k = 0; k < 8; k++) {
+            c.due("all but the first two are undone", x.of(k / 4, whatOf(k)), then[k]);
+        }
+        for (int i = 0; i < 40; i++) {
+            x.redo();
+        }
+        int[] now = {17, 18, 11, 12, 13, 14, 15, 16};
+        for (int k = 0; k < 8; k++) {
+            c.due("all are done again", x.of(k / 4, whatOf(k)), now[k]);
+        }
     }
 }

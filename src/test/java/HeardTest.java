@@ -9,6 +9,7 @@ public final class HeardTest {
         strike();
         judge();
         broke();
+        daysAndHours();
         c.end();
     }
 
@@ -108,6 +109,47 @@ public final class HeardTest {
         c.due("shelf -1", y.strike(-1, 0, 0), CastWithVows.BAD);
         for (int hd : NO_HOURS) {
             c.due("hd " + hd, y.strike(2, hd, 0), CastWithVows.BAD);
+        }
+    }
+
+    /** Vow 1 is off at hour 12 alone, and just 7 days ahead: each call must tell both apart. */
+    private static void daysAndHours() {
+        int[] hds = {1207, 1107, 1307, 1206, 1208};
+        for (int hd : hds) {
+            CastWithVows x = town();
+            Check.feed(x, "k?0;d=7?h=12&b;0");
+            int off = hd == 1207 ? 1 : 0;
+            c.promise("promise 18, hd " + hd);
+            c.due("heard", x.heard(1, 61, hd, 0), off);
+            c.due("heard", x.heard(1, 60, hd, 0), 2 - off);
+            c.promise("promise 19, hd " + hd);
+            Check.lay(x, 0, 1, -1, 60);
+            c.due("strike", x.strike(0, hd, 0), 16 - 8 * off);
+            x.row(0, 1, 0);
+            c.due("strike", x.strike(0, hd, 1), off);
+            c.due("strike", x.strike(0, hd, 2), 1 + off);
+        }
+        int[] dhs = {10012, 9912, 10112, 10011, 10013};
+        int[] since = {4101, 1000, 1102, CastWithVows.NOT, CastWithVows.NOT};
+        for (int k = 0; k < dhs.length; k++) {
+            int dh = dhs[k];
+            CastWithVows x = town();
+            x.mend(1, 5, 100);
+            x.mend(1, 6, 101);
+            Check.feed(x, "k?0;h=12?1;0");
+            Check.lay(x, 0, 1, 61, 60);
+            c.promise("promise 20, dh " + dh);
+            c.due("judge", x.judge(0, 1, dh), dh == 10012 ? CastWithVows.NOT : 0);
+            Check.lay(x, 0, 1, 60, 61);
+            c.promise("promise 21, dh " + dh);
+            boolean noon = dh % 100 == 12;
+            c.due("broke", x.broke(0, 1, dh, 0), noon ? 1000 + dh / 100 + 1 : CastWithVows.NOT);
+            c.due("broke", x.broke(0, 1, dh, 1), noon ? 1 : 0);
+            Check.lay(x, 0, 1, 61, 61);
+            x.vow(1, 1);
+            x.mend(4, 5, 101);
+            x.mend(4, 6, 102);
+            c.due("the other vow's own days", x.broke(0, 1, dh, 0), since[k]);
         }
     }
 

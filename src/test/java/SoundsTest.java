@@ -12,6 +12,7 @@ public final class SoundsTest {
         faults();
         wins();
         silent();
+        daysAndHours();
         c.end();
     }
 
@@ -157,6 +158,8 @@ public final class SoundsTest {
         x.mend(2, 5, 990);
         c.due("no day to 998", x.days(1, 99000, 0), CastWithVows.NOT);
         c.due("to 998 at most", x.days(1, 99500, 999), 4);
+        x.mend(2, 6, 998);
+        c.due("998 is the first", x.days(1, 99000, 0), 998);
         Check.feed(x, "h");
         c.due("the hour counts", x.days(0, 1, 0), CastWithVows.NOT);
         c.due("another hour", x.days(0, 0, 0), 0);
@@ -235,6 +238,44 @@ public final class SoundsTest {
         Check.feed(y, "k?1;-1");
         c.due("half of twelve", y.win(0, 0), 6);
         c.due("the least half", y.win(0, 1), 63);
+    }
+
+    /** Vow 2 is off on day 100 alone, at hour 12 alone: each call must tell both apart. */
+    private static void daysAndHours() {
+        int[] dhs = {10012, 9912, 10112, 10011, 10013};
+        for (int dh : dhs) {
+            CastWithVows x = threeBells();
+            x.mend(2, 5, 100);
+            x.mend(2, 6, 101);
+            x.mend(2, 4, 3);
+            Check.feed(x, "k?0;h=12?1;0");
+            int off = dh == 10012 ? 1 : 0;
+            c.promise("promise 9, dh " + dh);
+            c.due("puts", x.puts(2, dh), off);
+            c.promise("promise 10, dh " + dh);
+            c.due("pitch", x.pitch(1, dh, 0), 50 + off);
+            c.promise("promise 11, dh " + dh);
+            c.due("town", x.town(dh, 0), off);
+            c.due("town", x.town(dh, 1), off == 1 ? 1 : CastWithVows.NOT);
+            c.due("town", x.town(dh, 2), dh / 100 == 100 ? 1 : 0);
+            c.due("town", x.town(dh, 3), off == 1 ? 2 : 0);
+            c.promise("promise 12, dh " + dh);
+            c.due("beats", x.beats(1, dh), 2 - off);
+            c.promise("promise 13, dh " + dh);
+            c.due("chime", x.chime(7, dh, 1), 2);
+            c.due("chime of two", x.chime(6, dh, 0), 0);
+            x.mend(1, 1, 10);
+            c.due("chime of two", x.chime(6, dh, 0), 1 - off);
+            c.promise("promise 14, dh " + dh);
+            c.due("days", x.days(1, dh, 1), off);
+            c.due("days", x.days(1, dh, 0), dh / 100 + off);
+            c.promise("promise 15, dh " + dh);
+            c.due("fault", x.fault(3, dh), off);
+            c.due("fault", x.fault(-1, dh), 3 * off);
+            c.promise("promise 16, dh " + dh);
+            c.due("win", x.win(dh, 0), off);
+            c.due("win", x.win(dh, 1), 4 * off);
+        }
     }
 
     private static void silent() {
