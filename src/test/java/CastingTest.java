@@ -92,6 +92,13 @@ public final class CastingTest {
             c.due("the first of the best: vow " + v, x.melt(0, 100, v), first[v]);
         }
         c.due("nothing was cast", x.of(4, 2), 0);
+        CastWithVows y = bells(2);
+        y.vow(1, 3);
+        y.vow(0, 4);
+        y.breaks(0);
+        c.due("two bells: to the only other", y.melt(1, 0, 0), 0);
+        c.due("which is off then", y.melt(1, 0, -1), 1);
+        c.due("the other way", y.melt(0, 0, 1), 1);
         c.due("bell 3", x.melt(3, 0, -1), CastWithVows.BAD);
         c.due("bell -1", x.melt(-1, 0, -1), CastWithVows.BAD);
         c.due("vow 6", x.melt(0, 0, 6), CastWithVows.BAD);

@@ -94,6 +94,17 @@ public final class HeardTest {
         Check.feed(x, "k?0;b?d;0");
         strike(x, 1209, 16, 1, 2);
         strike(x, 1200, 16, 0, 1);
+        CastWithVows z = new CastWithVows();
+        z.bell(99);
+        for (int i = 0; i < 12; i++) {
+            z.vow(0, 9);
+        }
+        z.row(0, 1, 0);
+        strike(z, 0, 4096, 0, 13);
+        Check.feed(z, "!k*9");
+        strike(z, 0, 4096, 0, 13);
+        Check.feed(z, "k?-9;9");
+        strike(z, 0, 4096, 0, 13);
         CastWithVows y = new CastWithVows();
         y.row(0, 1, 1);
         strike(y, 0, 1, CastWithVows.NOT, CastWithVows.NOT);
@@ -224,6 +235,10 @@ public final class HeardTest {
         x.mend(0, 5, 999);
         Check.lay(x, 0, 1, 50, 51, 52, 53);
         broke(x, 0, 1000, 10, 3);
+        CastWithVows y = town();
+        Check.feed(y, "k?0;d");
+        Check.lay(y, 0, 1, 50, 51, 52);
+        broke(y, 0, 0, 0, 3);
         Check.lay(x, 0, 1, 58, 59, 59, 59);
         broke(x, 0, 1000, 2, 3);
         Check.lay(x, 0, 1, 59, 59, 59, 59);

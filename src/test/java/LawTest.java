@@ -67,6 +67,11 @@ public final class LawTest {
         fault("w(", 1);
         fault("1+", 2);
         fault("1+*2", 2);
+        for (String end : "1| 1& 1< 1= 1> 1- 1* 1/ 1% ! - ( 1|! 1&- 1<( !( -(".split(" ")) {
+            fault(end, end.length());
+            fault(end + ";1", end.length());
+            fault(end + ")", end.length());
+        }
         fault("1+-2", -1);
         fault("1--2", -1);
         fault("1!2", 1);
