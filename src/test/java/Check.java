@@ -1,9 +1,22 @@
 /** Counts the calls of a test whose answer is not the one that is due. */
 final class Check {
+    /** Ints that are far from all that the document names, and those at which sums wrap. */
+    static final int[] FAR = {
+        Integer.MIN_VALUE, Integer.MIN_VALUE + 1, -2000000000, -100000, 100000, Integer.MAX_VALUE - 1, Integer.MAX_VALUE,
+    };
+    /** What is no day and hour: the nearest of each kind, and the far ones. */
+    static final int[] NO_DAY_HOURS = {
+        -1, -100, -2300, 24, 99, 124, 1299, 99824, 99899, 99900, 99923, 100000,
+        Integer.MIN_VALUE, Integer.MIN_VALUE + 48, Integer.MAX_VALUE,
+    };
+    /** What is no hour and d. */
+    static final int[] NO_HOUR_DAYS = {-1, -99, -100, -2300, 2400, 2401, 2499, 9999, Integer.MIN_VALUE, Integer.MAX_VALUE};
+
     private int wrong;
     private int asked;
     private String promise = "";
 
+    /** The promise, or the document's own words, that the calls behind this hold. */
     void promise(String name) {
         promise = name;
     }
@@ -40,5 +53,14 @@ final class Check {
         for (int i = 0; i < elements.length; i++) {
             x.put(shelf, i, elements[i]);
         }
+    }
+
+    /** A foundry with BELLS of these TONES. */
+    static CastWithVows bells(int... tones) {
+        CastWithVows x = new CastWithVows();
+        for (int tone : tones) {
+            x.bell(tone);
+        }
+        return x;
     }
 }

@@ -31,7 +31,7 @@ public final class FuzzTest {
     }
 
     private boolean open() {
-        return !wrong && calls < 512;
+        return !wrong && calls < 508;
     }
 
     /** Mostly a number from 0 to most, seldom an odd one. */
@@ -60,11 +60,11 @@ public final class FuzzTest {
     }
 
     private int bell() {
-        return random.nextInt(15) == 0 ? some(6) : random.nextInt(Math.max(1, x.count(0)));
+        return random.nextInt(15) == 0 ? some(6) : random.nextInt(Math.max(1, o.count(0)));
     }
 
     private int vow() {
-        return random.nextInt(15) == 0 ? some(12) : random.nextInt(Math.max(1, x.count(1)));
+        return random.nextInt(15) == 0 ? some(12) : random.nextInt(Math.max(1, o.count(1)));
     }
 
     // ---- texts
@@ -147,8 +147,8 @@ public final class FuzzTest {
         int from = day();
         int hour = random.nextInt(24);
         for (int i = 0; i < n && open(); i++) {
-            int at = byDays ? x.pitch(bell, 100 * Math.min(998, Math.max(0, from) + i) + hour, 0)
-                : x.pitch(i, 100 * random.nextInt(30) + hour, 0);
+            int at = byDays ? o.pitch(bell, 100 * Math.min(998, Math.max(0, from) + i) + hour, 0)
+                : o.pitch(i, 100 * random.nextInt(30) + hour, 0);
             int v = random.nextInt(9) == 0 ? -1 : random.nextInt(19) == 0 ? some(70000) : at;
             due("put(" + shelf + ", " + i + ", " + v + ")", x.put(shelf, i, v), o.put(shelf, i, v));
         }
@@ -212,7 +212,7 @@ public final class FuzzTest {
             case 2: due("town(" + dh + ", " + what + ")", x.town(dh, what), o.town(dh, what)); break;
             case 3: n = 10 * b + bell(); due("beats(" + n + ", " + dh + ")", x.beats(n, dh), o.beats(n, dh)); break;
             case 4:
-                n = some(1 << Math.max(0, x.count(0)));
+                n = some(1 << Math.max(0, o.count(0)));
                 what = some(1);
                 due("chime(" + n + ", " + dh + ", " + what + ")", x.chime(n, dh, what), o.chime(n, dh, what));
                 break;
@@ -239,7 +239,7 @@ public final class FuzzTest {
         switch (r) {
             case 0:
             case 1:
-                n = random.nextInt(5) == 0 ? some(99) : x.pitch(b, 100 * random.nextInt(30) + hd % 24, 0);
+                n = random.nextInt(5) == 0 ? some(99) : o.pitch(b, 100 * random.nextInt(30) + hd % 24, 0);
                 due("heard(" + b + ", " + n + ", " + hd + ", " + what + ")", x.heard(b, n, hd, what), o.heard(b, n, hd, what));
                 break;
             case 2: pitches(random.nextInt(6), b, false); break;
